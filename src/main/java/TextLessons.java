@@ -919,10 +919,9 @@ public final class TextLessons {
         int read(Program into) {
             program = into;
             program.clear();
-            lineEnd = NONE;
-            while (lineEnd < tape.size - 1) {
-                at = lineEnd + 1;
-                lineEnd = nextByte(LINE_FEED, at, tape.size);
+            for (int start = 0; start < tape.size; start = lineEnd + 1) {
+                at = start;
+                lineEnd = nextByte(LINE_FEED, start, tape.size);
                 skipBlanks();
                 if (at >= lineEnd) {
                     continue;
@@ -1069,19 +1068,16 @@ public final class TextLessons {
         private boolean readLiteral() {
             int place = at;
             units.clear();
-            at++;
-            while (at < lineEnd && tape.at(at) != LITERAL) {
+            for (at = place + 1; at < lineEnd && tape.at(at) != LITERAL; at++) {
                 int unit = readSign();
                 if (unit == NONE) {
                     return false;
                 }
                 units.add(unit);
             }
-            if (at >= lineEnd || units.over) {
-                return false;
-            }
+            boolean ends = at < lineEnd;
             at++;
-            if (at < lineEnd && tape.at(at) != ' ') {
+            if (!ends || units.over || at < lineEnd && tape.at(at) != ' ') {
                 return false;
             }
             int number = program.literalWith(units);
@@ -1092,15 +1088,14 @@ public final class TextLessons {
             return true;
         }
 
-        /** Reads one of a LITERAL's SIGNS, one byte at least: its unit, or NONE if it is not so. */
+        /** Reads one of a LITERAL's SIGNS up to its last byte: its unit, or NONE if it is not so. */
         private int readSign() {
             int b = tape.at(at);
-            at++;
             if (b != '\\') {
                 return b >= 32 && b <= 126 ? b : NONE;
             }
-            int which = at < lineEnd ? tape.at(at) : NONE;
             at++;
+            int which = at < lineEnd ? tape.at(at) : NONE;
             switch (which) {
                 case '"':
                 case '\\':
@@ -1118,14 +1113,13 @@ public final class TextLessons {
 
         private int readCode() {
             int code = 0;
-            int end = at + 4;
-            while (at < end) {
+            for (int i = 0; i < 4; i++) {
+                at++;
                 int digit = at < lineEnd ? Letters.digit(tape.at(at), 16) : NONE;
                 if (digit == NONE) {
                     return NONE;
                 }
                 code = 16 * code + digit;
-                at++;
             }
             return code;
         }
@@ -1435,11 +1429,11 @@ public final class TextLessons {
         int perform(Program program) {
             begin(program);
             int k = 0;
-            while (k < program.count) {
+            for (int turn = 0; turn < STEP_LIMIT && k < program.count; turn++) {
                 leaveCatches(k);
+                bench.goTo(k);
                 Sort sort = program.sortOf(k);
                 int kind = FINE;
-                bench.goTo(k);
                 if (bench.lacksText(sort)) {
                     kind = MISSING;
                 } else if (sort.group == OF_TEXTS) {
@@ -1466,7 +1460,7 @@ public final class TextLessons {
                     return kind;
                 }
                 // The catch that stands last is the innermost one.
-                k = Math.max(k + 1, catchEnds.at(catchEnds.size - 1));
+                k = catchEnds.at(catchEnds.size - 1);
                 leaveCatch(kind);
             }
             leaveCatches(k);
