@@ -394,6 +394,19 @@ public final class PromiseTest {
             kind(1, smile, wrong);
         }
         kind(0, smile, "points w0 v0 0 0");
+        // The first and the last of the HIGH and the LOW ones, and what is beside these.
+        int[][] pairs = {{55296, 56320, 1}, {56319, 57343, 1}, {55295, 56320, 2}, {56320, 56320, 2}, {55296, 56319, 2},
+            {55296, 57344, 2}};
+        for (int[] pair : pairs) {
+            String two = String.format("set v0 \"\\u%04x\\u%04x\"", pair[0], pair[1]);
+            String units = new String(new char[] {(char) pair[0], (char) pair[1]});
+            x = Tapes.ran(two, "points w0 v0 0 2", "point w1 v0 0", "before w2 v0 2", "point w3 v0 1", "before w4 v0 1",
+                "seek w5 v0 w1 0", "from v1 w1", "join v2 @w1");
+            due("5 PAIR " + pair[0] + " " + pair[1], x.whole(0) + " " + x.whole(1) + " " + x.whole(2) + " " + x.whole(3) + " "
+                + x.whole(4) + " " + x.whole(5) + " " + Tapes.text(x, 1) + " " + Tapes.text(x, 2),
+                pair[2] + " " + units.codePointAt(0) + " " + units.codePointBefore(2) + " " + pair[1] + " " + pair[0] + " 0 "
+                + Character.toString(units.codePointAt(0)) + " " + Character.toString(units.codePointAt(0)));
+        }
         // Units that stand beside a text in memory are none of its own.
         x = Tapes.ran("set v0 \"\\ud83d\"", "set v1 \"\\ude00\"", "point w0 v0 0", "before w1 v1 1", "points w2 v0 0 1",
             "seek w3 v0 128512 0", "offset w4 v1 1 -1");
@@ -432,14 +445,17 @@ public final class PromiseTest {
     }
 
     private static void caseSteps() {
-        for (int u = 0; u < 400; u++) {
-            String literal = String.format("\"\\u%04x\"", u);
-            TextLessons x = Tapes.ran("set v0 " + literal, "upper v1 v0", "lower v2 v0");
+        TextLessons all = new TextLessons();
+        for (int u = 0; u < 65536; u++) {
+            Tapes.compile(all, String.format("set v0 \"\\u%04x\"\nupper v1 v0\nlower v2 v0\ntrim v3 v0\nstrip v4 v0", u));
+            all.run();
             String unit = String.valueOf((char) u);
             String upper = u < 384 ? unit.toUpperCase(java.util.Locale.ROOT) : unit;
             String lower = u < 384 ? unit.toLowerCase(java.util.Locale.ROOT) : unit;
-            due("5 upper of " + u, Tapes.text(x, 1) + x.same(1, 0), upper + (upper.equals(unit) ? 1 : 0));
-            due("5 lower of " + u, Tapes.text(x, 2) + x.same(2, 0), lower + (lower.equals(unit) ? 1 : 0));
+            due("5 upper of " + u, Tapes.text(all, 1) + all.same(1, 0), upper + (upper.equals(unit) ? 1 : 0));
+            due("5 lower of " + u, Tapes.text(all, 2) + all.same(2, 0), lower + (lower.equals(unit) ? 1 : 0));
+            due("5 trim of " + u, all.length(3), u <= 32 ? 0 : 1);
+            due("5 strip of " + u, all.length(4), Character.isWhitespace(u) ? 0 : 1);
         }
         // Only the units that the document tells change.
         TextLessons x = Tapes.ran("set v0 \"\\u03b1\\u0416\\u01c4\\uff21\\u1e9e\"", "upper v1 v0", "lower v2 v0");
@@ -461,8 +477,10 @@ public final class PromiseTest {
         alike(0, "\\u0137", "\\u0138");
         kind(5, "repeat v0 \"\\u00df\" 201", "upper v1 v0");
         kind(0, "repeat v0 \"\\u00df\" 200", "upper v1 v0");
-        x = Tapes.ran("null v0", "truth w0 \"TruE\"", "truth w1 \"true \"", "truth w2 v0", "truth w3 \"\"", "truth w4 \"tru\\u0065\"");
-        due("5 truth", x.whole(0) + " " + x.whole(1) + " " + x.whole(2) + " " + x.whole(3) + " " + x.whole(4), "1 0 0 0 1");
+        x = Tapes.ran("null v0", "truth w0 \"TruE\"", "truth w1 \"true \"", "truth w2 v0", "truth w3 \"\"", "truth w4 \"tru\\u0065\"", "truth w5 \"xrue\"",
+            "truth w6 \"trux\"");
+        due("5 truth", x.whole(0) + " " + x.whole(1) + " " + x.whole(2) + " " + x.whole(3) + " " + x.whole(4) + " " + x.whole(5) + " "
+            + x.whole(6), "1 0 0 0 1 0 0");
     }
 
     private static void alike(int want, String a, String b) {
@@ -643,6 +661,7 @@ public final class PromiseTest {
         kind(3, "from v0 1114112 97");
         gives(255, "parse w0 \"fF\" 16");
         gives(-35, "parse w0 \"-z\" 36");
+        gives(5, "parse w0 \"101\" 2");
         gives(7, "parse w0 \"+0007\" 8");
         gives(Long.MAX_VALUE, "parse w0 \"9223372036854775807\" 10");
         gives(Long.MIN_VALUE, "parse w0 \"-9223372036854775808\" 10");
