@@ -146,6 +146,7 @@ public final class PromiseTest {
         faultAt("set v01 \"\"", 4);
         faultAt("set v \"\"", 4);
         faultAt("set v100 \"\"", 4);
+        faultAt("set v001 \"\"", 4);
         faultAt("set w0 \"\"", 4);
         faultAt("set v0 5", 7);
         faultAt("plus w12 1 2", 5);
@@ -657,6 +658,12 @@ public final class PromiseTest {
         due("5 number", Tapes.text(x, 2) + " " + Tapes.text(x, 3) + " " + Tapes.text(x, 4), "-ff 255 255");
         due("5 number of the least", Tapes.text(x, 5), "-1" + "0".repeat(63));
         due("5 number", Tapes.text(x, 6) + " " + Tapes.text(x, 7) + " " + Tapes.text(x, 8), "1y2p0ij32e8e7 0 -12");
+        TextLessons all = new TextLessons();
+        for (int point = 0; point <= 1114111; point += point < 65000 ? 1009 : 337) {
+            Tapes.compile(all, "from v0 " + point + "\npoint w0 v0 0\nseek w1 v0 " + point + " 0");
+            all.run();
+            due("5 from " + point, Tapes.text(all, 0) + all.whole(0) + all.whole(1), Character.toString(point) + point + "0");
+        }
         kind(3, "from v0 97 -1");
         kind(3, "from v0 1114112 97");
         gives(255, "parse w0 \"fF\" 16");
