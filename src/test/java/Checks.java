@@ -19,6 +19,10 @@ final class Checks {
         }
     }
 
+    int asked() {
+        return asked;
+    }
+
     int wrong() {
         return wrong;
     }

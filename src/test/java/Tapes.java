@@ -94,4 +94,51 @@ final class Tapes {
         }
         return all.toString();
     }
+
+    /** All MARKS, with a blank between two. */
+    static String marks(TextLessons x) {
+        StringBuilder all = new StringBuilder();
+        for (int k = 0; k < x.marks(); k++) {
+            all.append(k > 0 ? " " : "").append(x.mark(k));
+        }
+        return all.toString();
+    }
+
+    /** What the latest run did: ended() and done(). */
+    static String course(TextLessons x) {
+        StringBuilder all = new StringBuilder();
+        for (int what = 0; what < 4; what++) {
+            all.append(x.ended(what)).append(' ');
+        }
+        for (int sort = 0; sort < 56; sort++) {
+            all.append(x.done(sort));
+        }
+        return all.toString();
+    }
+
+    /** All that a run has: texts and which of them are one, the POOL, wholes, builders, PARTS, MARKS. */
+    static String state(TextLessons x) {
+        StringBuilder all = new StringBuilder();
+        for (int v = 0; v < 20; v++) {
+            if (x.length(v) != TextLessons.NONE) {
+                int first = 0;
+                while (first < v && x.same(first, v) != 1) {
+                    first++;
+                }
+                all.append("v").append(v).append(" is v").append(first).append(x.pooled(v) == 1 ? " pooled " : " ");
+                all.append(text(x, v)).append('/');
+            }
+        }
+        all.append(x.pool()).append(" pooled/");
+        for (int w = 0; w < 12; w++) {
+            all.append(x.whole(w)).append(' ');
+        }
+        for (int b = 0; b < 6; b++) {
+            all.append("/b").append(b).append(' ').append(x.builder(b, 1)).append(' ').append(builder(x, b));
+        }
+        for (int k = 0; k < x.parts(); k++) {
+            all.append("/PART ").append(x.partOf(k)).append(' ').append(part(x, k));
+        }
+        return all.append('/').append(marks(x)).toString();
+    }
 }
