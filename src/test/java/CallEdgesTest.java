@@ -10,6 +10,7 @@ public final class CallEdgesTest {
         feed();
         cut();
         compile();
+        compileAgain();
         compileWithFault();
         run();
         ended();
@@ -20,6 +21,7 @@ public final class CallEdgesTest {
         shrinkRefused();
         shrink();
         shrinkRanges();
+        shrinkWords();
         shrinkJudges();
         texts();
         same();
@@ -126,6 +128,34 @@ public final class CallEdgesTest {
         EDGES.due("POOL", x.pool(), 3);
         EDGES.due("course", Tapes.course(x), Tapes.course(new TextLessons()));
         EDGES.due("nothing to shrink", x.shrink(), -2);
+    }
+
+    /** So many unlike LITERALS of some units each, in as many STEPS. */
+    private static String literals(int count, int first, int units) {
+        StringBuilder lines = new StringBuilder();
+        for (int i = 0; i < count; i++) {
+            lines.append("length w0 \"").append(first + i).append("x".repeat(units)).append("\"\n");
+        }
+        return lines.toString();
+    }
+
+    private static void compileAgain() {
+        EDGES.says("becomes the program: how many STEPS it has; all is as at the beginning of its run.");
+        // Nothing of a former program counts among the LITERALS, units or STEPS of the next.
+        TextLessons x = new TextLessons();
+        for (int i = 0; i < 12; i++) {
+            EDGES.due("program " + i, Tapes.compile(x, literals(24, 100 * i + 100, 90)), 24);
+            EDGES.due("its POOL", x.pool(), 25);
+            EDGES.due("its run", x.run(), 0);
+            EDGES.due("its last STEP", Tapes.spelled(x, 23), "length w0 \"" + (100 * i + 123) + "x".repeat(90) + "\"");
+            EDGES.due("its last length", x.whole(0), i < 9 ? 93 : 94);
+        }
+        for (int i = 0; i < 12; i++) {
+            EDGES.due("a FAULT " + i, Tapes.compile(x, "mark 1\n".repeat(60) + "mark 1"), -421);
+            EDGES.due("60 STEPS " + i, Tapes.compile(x, "mark 1\n".repeat(60)), 60);
+            EDGES.due("a long LITERAL " + i, Tapes.compile(x, "set v0 \"" + "x".repeat(401) + "\""), -8);
+            EDGES.due("a short one " + i, Tapes.compile(x, "set v0 \"x\""), 1);
+        }
     }
 
     private static void compileWithFault() {
@@ -402,6 +432,21 @@ public final class CallEdgesTest {
             "unit w3 \"abc\" w2");
     }
 
+    private static void shrinkWords() {
+        EDGES.says("The program is made shorter");
+        // What is left has its words as they were, with the signs of X.
+        shrinks("plus w0 0 -1/join v0 \"a\" w0 @w0", "plus w0 0 -1", "mark 1", "join v0 \"a\" w0 @w0");
+        shrinks("plus w0 0 -1/join v0 ?w0 @w0", "plus w0 0 -1", "join v1 @65 @66 ?67", "join v0 ?w0 @w0", "join v2 @65 ?65 1 2");
+        shrinks("repeat v0 \"x\" 395/join v1 v0 ?0 @65536", "mark 1", "repeat v0 \"x\" 395", "join v1 v0 ?0 @65536", "mark 2");
+        TextLessons x = shrinks("join v1 8 7 6 5 4 3 @-2 1", "join v0 1 2 3 4 5 6 7 8\n".repeat(59) + "join v1 8 7 6 5 4 3 @-2 1");
+        EDGES.due("the run", ended(x), "0 3 0 1");
+        StringBuilder all = new StringBuilder("plus w0 3 0");
+        for (int i = 1; i < 59; i++) {
+            all.append("\nplus w").append(i % 2).append(" w").append((i - 1) % 2).append(" 0");
+        }
+        shrinks("plus w0 3 0/unit w2 \"abc\" w0", all + "\nunit w2 \"abc\" w0");
+    }
+
     private static void shrinkJudges() {
         EDGES.says("is JUDGED without a FAULT");
         shrinks("null v0/set v1 v0/trim v2 v1", "null v0", "set v1 v0", "trim v2 v1");
@@ -469,15 +514,17 @@ public final class CallEdgesTest {
         EDGES.says("How many texts are in the POOL.");
         EDGES.due("a new object", new TextLessons().pool(), 1);
         EDGES.due("EMPTY, a LITERAL, and one more", x.pool(), 3);
-        StringBuilder literals = new StringBuilder();
-        for (int i = 1; i <= 24; i++) {
-            literals.append(String.format("length w0 \"\\u%04x\"\n", i));
+        // Three joins of eight LITERALS each, and 57 joins of NUMBERS: each of them adds one.
+        StringBuilder most = new StringBuilder();
+        for (char sign = 'a'; sign < 'y'; sign++) {
+            most.append((sign - 'a') % 8 == 0 ? "\njoin v0" : "").append(" \"").append(sign).append('"');
         }
-        // 24 LITERALS, and as many joins of NUMBERS as there are STEPS left.
-        for (int i = 100; i < 136; i++) {
-            literals.append("join v0 ").append(i).append('\n');
+        for (int i = 100; i < 157; i++) {
+            most.append("\njoin v0 ").append(i);
         }
-        EDGES.due("the most there may be", EDGES.fine(literals.toString()).pool(), 1 + 24 + 36);
+        x = EDGES.fine(most.toString());
+        EDGES.due("the most there may be", x.pool(), 1 + 24 + 60);
+        EDGES.due("the last one", x.pooled(0), 1);
         StringBuilder joins = new StringBuilder();
         for (int i = 100; i < 160; i++) {
             joins.append("join v0 ").append(i).append('\n');

@@ -76,6 +76,9 @@ public final class ProgramEdgesTest {
         EDGES.says("each other one is a STEP, 60 at most");
         EDGES.compiles(59, "mark 1\n".repeat(59));
         EDGES.compiles(60, "mark 1\n".repeat(60));
+        TextLessons x = EDGES.fine("join v0 1 2 3 4 5 6 7 8\n".repeat(59) + "join v1 8 7 6 5 4 3 2 1");
+        EDGES.due("the last of 60 with all words that a STEP may have", Tapes.spelled(x, 59), "join v1 8 7 6 5 4 3 2 1");
+        EDGES.due("its units", Tapes.text(x, 1), "87654321");
         EDGES.says("the 61st STEP's NAME): at its first byte");
         EDGES.fault("mark 1\n".repeat(60) + "^mark 1");
         EDGES.fault("mark 1\n".repeat(60) + "  ^mark");
@@ -261,6 +264,7 @@ public final class ProgramEdgesTest {
             EDGES.fault("^" + name.toUpperCase(java.util.Locale.ROOT) + " v0");
             EDGES.fault("^" + name + "x v0");
             EDGES.fault("^" + name.substring(1) + " v0");
+            EDGES.fault("^x" + name.substring(1) + " v0");
             EDGES.fault("^\"" + name + "\" v0");
         }
         EDGES.fault("^mar 1");
@@ -373,13 +377,24 @@ public final class ProgramEdgesTest {
                 EDGES.fault(GIVEN + line(sort, least(shape), 0, "b2") + "\nturn ^b3");
             }
         }
-        // A STEP does not give to itself, nor to one before it; v, w and b of one number are three.
+        String[] names = new String[38];
+        for (int i = 0; i < 38; i++) {
+            names[i] = i < 20 ? "v" + i : i < 32 ? "w" + (i - 20) : "b" + (i - 32);
+        }
+        for (String gift : names) {
+            String gives = gift.startsWith("v") ? "null " + gift : gift.startsWith("w") ? "pieces " + gift : "fresh " + gift + " 1";
+            for (String name : names) {
+                if (name.equals(gift)) {
+                    EDGES.compiles(2, gives + "\njoin v0 " + name);
+                } else {
+                    EDGES.fault(gives + "\njoin v0 ^" + name);
+                }
+            }
+        }
+        // A STEP does not give to itself, nor to one before it.
         EDGES.fault("set v0 ^v0");
         EDGES.fault("plus w0 ^w0 1");
         EDGES.fault("mark ^w0\nplus w0 1 1");
-        EDGES.fault("set v3 \"\"\nmark ^w3");
-        EDGES.fault("plus w3 1 1\nturn ^b3");
-        EDGES.fault("fresh b3 1\ntrim v0 ^v3");
         EDGES.compiles(2, "null v0\nlength w0 v0");
     }
 

@@ -9,8 +9,10 @@ public final class RunEdgesTest {
         beginning();
         pool();
         nothingChanges();
+        nothingIsLeftOver();
         orderOfKinds();
         roomForUnits();
+        manyTexts();
         roomForPartsAndMarks();
         ifs();
         catches();
@@ -83,6 +85,18 @@ public final class RunEdgesTest {
         EDGES.refused(5, and(before, and(marked(29), "mark 2")));
     }
 
+    /** Behind a refusal that is caught the next STEP is done as if it had not been. */
+    private static void nothingIsLeftOver() {
+        EDGES.says("A STEP that is refused changes nothing; KINDS");
+        EDGES.becomes("ab", "catch w0 1", "repeat v0 \"x\" 401", "copy v0 \"a\"", "join v1 v0 \"b\"");
+        EDGES.becomes("ab", "catch w0 1", "join v0 \"a\" @-1", "copy v0 \"a\"", "join v1 v0 \"b\"");
+        EDGES.becomes("AB", "repeat v0 \"\\u00df\" 201", "catch w0 1", "upper v1 v0", "upper v1 \"ab\"");
+        EDGES.builds("ab", 18, X400, "open b0 \"a\"", "catch w0 1", "add b0 v0", "open b0 \"a\"", "add b0 \"b\"", "room w1 b0",
+            "open b0 \"ab\"");
+        EDGES.partsAre(2, "a|b", "repeat v0 \",\" 400", "catch w0 1", "split v0 44 -1", "split \"a,b\" 44 0");
+        EDGES.partsAre(2, "a|b", "repeat v0 \"\\n\" 400", "catch w0 1", "lines v0", "lines \"a\\nb\"");
+    }
+
     private static void orderOfKinds() {
         EDGES.says("4 of its T, as they stand; then as told; 5 at last");
         for (String step : new String[] {"unit w0 v0 -1", "point w0 v0 0", "before w0 v0 0", "points w0 v0 1 0",
@@ -127,6 +141,19 @@ public final class RunEdgesTest {
         String[] lines = new String[count];
         Arrays.fill(lines, "mark 1");
         return lines;
+    }
+
+    /** There is no limit for all texts together, however many a run makes. */
+    private static void manyTexts() {
+        EDGES.says("5 at last: a text or builder would have more than 400 units, there would be more than 24 PARTS, or 30 MARKS.");
+        TextLessons x = EDGES.fine(X400 + "\n" + "copy v1 v0\n".repeat(58) + "copy v2 v1");
+        EDGES.due("59 copies of 400 units", x.length(2) + " " + x.hash(2) + " " + x.same(1, 2), "400 " + x.hash(0) + " 0");
+        x = EDGES.fine("repeat v0 \"a,\" 24\n" + "split v0 44 0\n".repeat(58) + "piece v1 23");
+        EDGES.due("58 times 24 PARTS", x.parts() + " " + x.partUnit(0, 0) + " " + x.partUnit(23, 0) + " " + x.partOf(23), "24 97 97 1");
+        String literals = "set v0 \"" + "x".repeat(400) + "\"\nset v1 \"" + "y".repeat(400) + "\"\nset v2 \"" + "z".repeat(400)
+            + "\"\n";
+        x = EDGES.fine(literals + "copy v3 v2\n".repeat(57));
+        EDGES.due("LITERALS and copies", x.unit(3, 399) + " " + x.length(3) + " " + x.pooled(3), "122 400 0");
     }
 
     private static void roomForPartsAndMarks() {
@@ -184,6 +211,9 @@ public final class RunEdgesTest {
         EDGES.marksAre("0", "plus w0 7 0", "catch w0 0", "mark w0");
         EDGES.marksAre("0", "plus w0 7 0", "catch w0 2", "if 0 1", "mark 1", "mark w0");
         EDGES.due("a former refusal", EDGES.fine("catch w0 1", "piece v0 0", "catch w0 1", "mark 1").whole(0), 0);
+        TextLessons x = EDGES.fine("catch w3 1", "piece v0 0", "catch w11 1", "fresh b0 -1", "catch w5 1", "mark 1", "catch w0 1",
+            "parse w1 \"\" 10");
+        EDGES.due("one catch behind another", x.whole(3) + " " + x.whole(11) + " " + x.whole(5) + " " + x.whole(0), "1 3 0 2");
     }
 
     private static void nestedCatches() {

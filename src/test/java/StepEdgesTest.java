@@ -6,6 +6,7 @@ public final class StepEdgesTest {
     private static final String SIX = "set v0 \"a\\ud83d\\ude00\\ude00b\\ud83d\"";
 
     public static void main(String[] args) {
+        words();
         objects();
         joins();
         joinsOfXs();
@@ -41,6 +42,38 @@ public final class StepEdgesTest {
         TextLessons x = EDGES.fine(lines);
         EDGES.due("length of " + String.join("/", lines), x.length(1), 0);
         EDGES.due("pooled of " + String.join("/", lines), x.pooled(1), 0);
+    }
+
+    /** STEPS whose words have all other numbers, so that none can be taken for another. */
+    private static void words() {
+        EDGES.says("its NAME, then what it has, as told.");
+        String given = "plus w1 1 0\nplus w2 2 0\nset v3 \"abcabc\"\nset v4 \"bc\"\nset v5 \"X\"\nopen b1 \"hello\"\nopen b2 \"help\"\n"
+            + "fresh b3 7\nplus w3 98 0\nplus w4 -1 0\n";
+        String[][] wholes = {{"same w9 v3 v3", "1"}, {"equal w9 v3 v4", "0"}, {"alike w9 v5 \"x\"", "1"}, {"order w9 v3 v4", "-1"},
+            {"hash w9 v4", "3137"}, {"length w9 v4", "2"}, {"unit w9 v3 w1", "98"}, {"point w9 v3 w2", "99"}, {"before w9 v3 w2", "98"},
+            {"points w9 v3 w1 w2", "1"}, {"offset w9 v3 w1 w2", "3"}, {"find w9 v3 v4 w2", "4"}, {"last w9 v3 v4 w2", "1"},
+            {"seek w9 v3 w3 w2", "4"}, {"begins w9 v3 v4 w1", "1"}, {"ends w9 v3 v4", "1"}, {"pieces w9", "0"}, {"room w9 b3", "7"},
+            {"first w9 b1 b2", "-4"}, {"first w9 b2 b1", "4"}, {"parse w9 \"11\" w2", "3"}, {"small w9 \"-10\" w2", "-2"},
+            {"truth w9 v3", "0"}, {"plus w9 w1 w2", "3"}, {"minus w9 w1 w2", "-1"}, {"times w9 w3 w2", "196"}};
+        for (String[] whole : wholes) {
+            EDGES.due(whole[0], Long.toString(EDGES.fine(given + whole[0]).whole(9)), whole[1]);
+        }
+        String[][] texts = {{"set v9 v4", "bc"}, {"copy v9 v4", "bc"}, {"intern v9 v4", "bc"}, {"join v9 v4 w2 b1 @w3 ?w1", "bc2hellobtrue"},
+            {"part v9 v3 w1 w2", "b"}, {"trim v9 v4", "bc"}, {"strip v9 v4", "bc"}, {"repeat v9 v4 w2", "bcbc"},
+            {"change v9 v3 w3 w1", "a\u0001ca\u0001c"}, {"replace v9 v3 v4 v5", "aXaX"}, {"upper v9 v4", "BC"}, {"lower v9 v5", "x"},
+            {"text v9 b1", "hello"}, {"text v9 b2", "help"}, {"from v9 w3 w1", "b\u0001"}, {"number v9 w3 w2", "1100010"},
+            {"split v3 w3 w4\npiece v9 w2", "c"}, {"split v3 w3 w2\nweave v9 v5", "aXcabc"}, {"lines v4\npiece v9 0", "bc"}};
+        for (String[] text : texts) {
+            EDGES.due(text[0], Tapes.text(EDGES.fine(given + text[0]), 9), text[1]);
+        }
+        String[][] builders = {{"fresh b2 w2", ":2"}, {"open b2 v4", "bc:18"}, {"add b2 v4", "helpbc:20"}, {"insert b2 w1 v4", "hbcelp:20"},
+            {"insert b2 w1 b1", "hhelloelp:20"}, {"delete b2 w1 w2", "hlp:20"}, {"put b2 w1 w3", "hblp:20"}, {"turn b2", "pleh:20"},
+            {"size b2 w1", "h:20"}};
+        for (String[] builder : builders) {
+            TextLessons x = EDGES.fine(given + builder[0]);
+            EDGES.due(builder[0], Tapes.builder(x, 2) + ":" + x.builder(2, 1), builder[1]);
+            EDGES.due("another one, by " + builder[0], Tapes.builder(x, 1) + ":" + x.builder(1, 1), "hello:21");
+        }
     }
 
     private static void objects() {
@@ -168,6 +201,7 @@ public final class StepEdgesTest {
         EDGES.gives(56832, SIX, "before w0 v0 4");
         EDGES.gives(55357, SIX, "before w0 v0 6");
         EDGES.gives(56832, "before w0 \"\\ude00\" 1");
+        EDGES.gives(128512, "before w0 \"\\ud83d\\ude00\" 2");
         for (String place : new String[] {"0", "-1", "7", "4294967297", "-9223372036854775808", "9223372036854775807"}) {
             EDGES.refused(1, SIX, "before w0 v0 " + place);
         }
@@ -216,6 +250,8 @@ public final class StepEdgesTest {
         EDGES.gives(3, SIX, "offset w0 v0 4 -1");
         EDGES.gives(0, SIX, "offset w0 v0 1 -1");
         EDGES.gives(0, SIX, "offset w0 v0 6 -5");
+        EDGES.gives(0, "offset w0 \"\\ud83d\\ude00\" 2 -1");
+        EDGES.gives(2, "offset w0 \"\\ud83d\\ude00\" 0 1");
         EDGES.gives(0, "offset w0 \"\" 0 0");
         EDGES.gives(400, X400, "offset w0 v0 0 400");
         EDGES.gives(0, X400, "offset w0 v0 400 -400");
@@ -465,6 +501,8 @@ public final class StepEdgesTest {
         EDGES.partsAre(4, "a|b||", "split \"a,b,,\" 44 5");
         EDGES.partsAre(4, "a|b||", "split \"a,b,,\" 44 4294967296");
         EDGES.partsAre(4, "a|b||", "split \"a,b,,\" 44 9223372036854775807");
+        EDGES.partsAre(2, "dd|e", "split \"a,,b,c\" 44 -1", "split \"dd,e\" 44 -1");
+        EDGES.partsAre(2, "dd|e", "lines \"a\\n\\nb\\nc\"", "split \"dd,e\" 44 2");
         EDGES.says("with 0 those without units at the end go");
         EDGES.partsAre(2, "a|b", "split \"a,b,,\" 44 0");
         EDGES.partsAre(3, "|a|", "split \",a,\" 44 -1");
@@ -472,6 +510,7 @@ public final class StepEdgesTest {
         EDGES.partsAre(3, "a||b", "split \"a,,b\" 44 0");
         EDGES.partsAre(0, "", "split \",\" 44 0");
         EDGES.partsAre(0, "", "split \",,,\" 44 0");
+        EDGES.partsAre(2, "dd|e", "split \"a,b,,,,\" 44 0", "split \"dd,e,,\" 44 0");
         EDGES.partsAre(4, "a|b||", "split \"a,b,,\" 44 -1");
         EDGES.partsAre(4, "a|b||", "split \"a,b,,\" 44 -9223372036854775808");
         EDGES.says("A PART that is all of T is T, else it becomes that");
@@ -499,6 +538,8 @@ public final class StepEdgesTest {
         EDGES.partsAre(3, "x||y", "lines \"x\\u000d\\u000d\\ny\"");
         EDGES.partsAre(3, "x||y", "lines \"x\\u000d\\n\\ny\"");
         EDGES.partsAre(2, "|x", "lines \"\\nx\"");
+        EDGES.partsAre(2, "dd|e", "lines \"a\\n\\nb\\nc\"", "lines \"dd\\ne\"");
+        EDGES.partsAre(2, "dd|e", "split \"a,,b,c\" 44 -1", "lines \"dd\\ne\"");
         EDGES.partsAre(1, "\u000b\u000c\u0085\u2028\u2029", "lines \"\\u000b\\u000c\\u0085\\u2028\\u2029\"");
         EDGES.says("what is behind the last of them is one only if it has units");
         EDGES.partsAre(1, "x", "lines \"x\\n\"");

@@ -135,6 +135,8 @@ public final class UnitEdgesTest {
         EDGES.gives(0, "copy v0 \"ab\"", "order w0 \"ab\" v0");
         EDGES.gives(2, "order w0 \"abc\" \"a\"");
         EDGES.gives(-3, "order w0 \"\" \"abc\"");
+        EDGES.gives(-1, "set v0 \"q\"", "order w0 \"ab\" \"abc\"");
+        EDGES.gives(1, "set v0 \"q\"", "order w0 \"abc\" \"ab\"");
         EDGES.gives(400, "repeat v0 \"x\" 400", "order w0 v0 \"\"");
     }
 
