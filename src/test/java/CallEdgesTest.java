@@ -130,11 +130,11 @@ public final class CallEdgesTest {
         EDGES.due("nothing to shrink", x.shrink(), -2);
     }
 
-    /** So many unlike LITERALS of some units each, in as many STEPS. */
-    private static String literals(int count, int first, int units) {
+    /** Three STEPS with 24 unlike LITERALS, which are units from the first one on. */
+    private static String literals(int first) {
         StringBuilder lines = new StringBuilder();
-        for (int i = 0; i < count; i++) {
-            lines.append("length w0 \"").append(first + i).append("x".repeat(units)).append("\"\n");
+        for (int i = 0; i < 24; i++) {
+            lines.append(i % 8 > 0 ? "" : i > 0 ? "\njoin v0" : "join v0").append(" \"").append((char) (first + i)).append('"');
         }
         return lines.toString();
     }
@@ -143,14 +143,21 @@ public final class CallEdgesTest {
         EDGES.says("becomes the program: how many STEPS it has; all is as at the beginning of its run.");
         // Nothing of a former program counts among the LITERALS, units or STEPS of the next.
         TextLessons x = new TextLessons();
-        for (int i = 0; i < 12; i++) {
-            EDGES.due("program " + i, Tapes.compile(x, literals(24, 100 * i + 100, 90)), 24);
-            EDGES.due("its POOL", x.pool(), 25);
-            EDGES.due("its run", x.run(), 0);
-            EDGES.due("its last STEP", Tapes.spelled(x, 23), "length w0 \"" + (100 * i + 123) + "x".repeat(90) + "\"");
-            EDGES.due("its last length", x.whole(0), i < 9 ? 93 : 94);
+        for (int i = 0; i < 3; i++) {
+            for (int first : new int[] {'a', 'A', '0'}) {
+                EDGES.due("program " + i, Tapes.compile(x, literals(first)), 3);
+                EDGES.due("its POOL", x.pool(), 25);
+                EDGES.due("its run", x.run() + " " + x.pool() + " " + x.length(0), "0 28 8");
+                EDGES.due("its last LITERAL", x.spelled(2, 37) + " " + x.unit(0, 7), (first + 23) + " " + (first + 23));
+            }
         }
-        for (int i = 0; i < 12; i++) {
+        x = new TextLessons();
+        for (int i = 0; i < 62; i++) {
+            EDGES.due("program " + i, Tapes.compile(x, literals('a')), 3);
+        }
+        EDGES.due("the run of the last", x.run() + " " + x.pool() + " " + x.length(0) + " " + x.unit(0, 7), "0 28 8 120");
+        x = new TextLessons();
+        for (int i = 0; i < 3; i++) {
             EDGES.due("a FAULT " + i, Tapes.compile(x, "mark 1\n".repeat(60) + "mark 1"), -421);
             EDGES.due("60 STEPS " + i, Tapes.compile(x, "mark 1\n".repeat(60)), 60);
             EDGES.due("a long LITERAL " + i, Tapes.compile(x, "set v0 \"" + "x".repeat(401) + "\""), -8);

@@ -791,7 +791,7 @@ public final class PromiseTest {
         TextLessons x = Tapes.ran("if 1 2", "if 1 1", "mark 1", "plus w0 0 5", "if w0 1", "unit w1 \"abc\" w0");
         due("10 RANGES", x.shrink() + " " + Tapes.allSpelled(x), "2 plus w0 0 5/unit w1 \"abc\" w0");
         x = Tapes.ran("repeat v0 \"0123456789\" 40", "plus w0 1 1", "catch w1 2", "mark w0", "join v1 v0 v0", "if w1 1", "repeat v2 v0 w1");
-// The catch stays: without it w1 is not GIVEN, and with it the last STEP is the one refused.
+        // The catch stays: without it w1 is not GIVEN, and with it the last STEP is the one refused.
         due("10 ROOM", x.shrink() + " " + Tapes.allSpelled(x),
             "4 repeat v0 \"0123456789\" 40/catch w1 1/join v1 v0 v0/repeat v2 v0 w1");
     }

@@ -148,8 +148,11 @@ public final class RunEdgesTest {
         EDGES.says("5 at last: a text or builder would have more than 400 units, there would be more than 24 PARTS, or 30 MARKS.");
         TextLessons x = EDGES.fine(X400 + "\n" + "copy v1 v0\n".repeat(58) + "copy v2 v1");
         EDGES.due("59 copies of 400 units", x.length(2) + " " + x.hash(2) + " " + x.same(1, 2), "400 " + x.hash(0) + " 0");
-        x = EDGES.fine("repeat v0 \"a,\" 24\n" + "split v0 44 0\n".repeat(58) + "piece v1 23");
-        EDGES.due("58 times 24 PARTS", x.parts() + " " + x.partUnit(0, 0) + " " + x.partUnit(23, 0) + " " + x.partOf(23), "24 97 97 1");
+        String letters = "a,b,c,d,e,f,g,h,i,j,k,l,m,n,o,p,q,r,s,t,u,v,w,x";
+        x = EDGES.fine("set v0 \"" + letters + "\"\n" + "split v0 44 0\n".repeat(59));
+        EDGES.due("59 times 24 PARTS", Tapes.parts(x), letters.replace(',', '|'));
+        x = EDGES.fine("set v0 \"" + letters + "\"\n" + "split v0 44 0\n".repeat(57) + "piece v1 22\npiece v2 23");
+        EDGES.due("each is one by itself", x.partOf(22) + " " + x.partOf(23) + " " + x.same(1, 2), "1 2 0");
         String literals = "set v0 \"" + "x".repeat(400) + "\"\nset v1 \"" + "y".repeat(400) + "\"\nset v2 \"" + "z".repeat(400)
             + "\"\n";
         x = EDGES.fine(literals + "copy v3 v2\n".repeat(57));
